@@ -77,7 +77,8 @@ public final class Twincuts {
     return refused;
   }
 
-  public int ofPoint(int point, int what) throws IndexOutOfBoundsException, IllegalArgumentException {
+  public int ofPoint(int point, int what)
+      throws IndexOutOfBoundsException, IllegalArgumentException {
     demandPoint(point);
     demandWhat(what, 6);
     switch (what) {
@@ -216,7 +217,8 @@ public final class Twincuts {
     return web.countParts(web.allPoints() & ~points, web.standing & ~lines);
   }
 
-  public long wouldLink(int one, int other) throws IndexOutOfBoundsException, IllegalArgumentException {
+  public long wouldLink(int one, int other)
+      throws IndexOutOfBoundsException, IllegalArgumentException {
     demandPoint(one);
     demandPoint(other);
     demandUnlike(one, other);
@@ -446,7 +448,8 @@ public final class Twincuts {
       for (int round = 0; round < MOST_POINTS; round++) {
         int before = met;
         for (int line = 0; line < lines; line++) {
-          if (has(by, line) && (ends[line] & met) != 0 && (ends[line] & ~within) == 0) {
+          boolean isBeside = (by >> line & 1) != 0 && (ends[line] & met) != 0;
+          if (isBeside && (ends[line] & ~within) == 0) {
             met |= ends[line];
           }
         }
@@ -608,7 +611,8 @@ public final class Twincuts {
     private void findBridges() {
       bridgeSet = 0;
       for (int line = 0; line < web.lines; line++) {
-        if (has(web.standing, line) && web.countParts(web.allPoints(), web.standing & ~(1 << line)) > parts) {
+        int rest = web.standing & ~(1 << line);
+        if (has(web.standing, line) && web.countParts(web.allPoints(), rest) > parts) {
           bridgeSet |= 1 << line;
         }
       }
@@ -782,7 +786,7 @@ public final class Twincuts {
       cameFrom[source] = source;
       queue[0] = source;
       int last = 1;
-      for (int next = 0; next < last; next++) {
+      for (int next = 0; next < last && next < NODES; next++) {
         int from = queue[next];
         for (int to = 0; to < NODES; to++) {
           if (room[from][to] > 0 && cameFrom[to] == NONE && last < NODES) {
@@ -797,7 +801,7 @@ public final class Twincuts {
 
     private void fillWay(int source, int target) {
       int to = target;
-      for (int step = 0; step < NODES && to != source; step++) {
+      for (int step = 0; step < NODES && to != source && cameFrom[to] != NONE; step++) {
         int from = cameFrom[to];
         room[from][to]--;
         room[to][from]++;
